@@ -181,7 +181,7 @@ public final class NetShape {
     }
 
     public int next() {
-        if (!hasPair()) {
+        if (least.many() == 0) {
             return NOT;
         }
         survey.make();
@@ -189,7 +189,7 @@ public final class NetShape {
     }
 
     public int worst() {
-        if (!hasPair()) {
+        if (least.many() == 0) {
             return NOT;
         }
         survey.make();
@@ -230,10 +230,6 @@ public final class NetShape {
 
     private boolean isTraced(int name) {
         return isName(name) && hasBit(rows.names(), name);
-    }
-
-    private boolean hasPair() {
-        return least.many() > 0 && Integer.bitCount(rows.names()) >= 2;
     }
 
     private int boxesOfNames() {
@@ -450,9 +446,11 @@ public final class NetShape {
             this.told = told;
         }
 
-        void place(int silent, int box) {
+        /** Gives a SILENT HOP its box, and loosens those behind it. */
+        void place(int silent, int box, int newBoxes) {
             if (silent >= 0 && silent < silentBoxes.length) {
                 silentBoxes[silent] = box;
+                loosen(silent + 1, newBoxes);
             }
         }
 
@@ -476,13 +474,18 @@ public final class NetShape {
             for (int s = 0; s < silentBoxes.length; s++) {
                 silentBoxes[s] = boxIn(code, s);
             }
-            draw(rows.all());
+            fits(rows.all());
         }
 
-        /** Whether the NET FITS these TRACES (bits); LINES stand as drawn then. */
+        /** Whether the NET FITS these TRACES (bits); if so, their LINES stand drawn. */
         boolean fits(int traces) {
-            if (!draw(traces)) {
-                return false;
+            Arrays.fill(joined, 0);
+            int silent = 0;
+            for (int t = 0; t < rows.traces(); t++) {
+                if (hasBit(traces, t) && !draw(t, silent)) {
+                    return false;
+                }
+                silent += rows.silentsIn(t);
             }
             for (int t = 0; t < rows.traces(); t++) {
                 if (hasBit(traces, t) && !isShortest(t)) {
@@ -499,20 +502,8 @@ public final class NetShape {
             return way(first, last) >= length - 1;
         }
 
-        /** Draws the LINES of these TRACES (bits), unless one has a box twice. */
-        private boolean draw(int traces) {
-            Arrays.fill(joined, 0);
-            int silent = 0;
-            for (int t = 0; t < rows.traces(); t++) {
-                if (hasBit(traces, t) && !drawRow(t, silent)) {
-                    return false;
-                }
-                silent += rows.silentsIn(t);
-            }
-            return true;
-        }
-
-        private boolean drawRow(int trace, int firstSilent) {
+        /** Draws the LINES of a TRACE; false if it has a box twice. */
+        private boolean draw(int trace, int firstSilent) {
             int silent = firstSilent;
             int before = NONE;
             int seen = 0;
@@ -561,21 +552,16 @@ public final class NetShape {
                 if (hasBit(reached, to)) {
                     return steps;
                 }
-                int wider = reached | around(reached);
+                int wider = reached;
+                for (int box = 0; box < BOXES; box++) {
+                    wider |= hasBit(reached, box) ? joined[box] : 0;
+                }
                 if (wider == reached) {
                     return NONE;
                 }
                 reached = wider;
             }
             return NONE;
-        }
-
-        private int around(int boxes) {
-            int bits = 0;
-            for (int box = 0; box < BOXES; box++) {
-                bits |= hasBit(boxes, box) ? joined[box] : 0;
-            }
-            return bits;
         }
     }
 
@@ -603,8 +589,17 @@ public final class NetShape {
         }
 
         int many() {
-            if (!found) {
-                find();
+            if (found) {
+                return many;
+            }
+            found = true;
+            many = 0;
+            newBoxes = SILENTS;
+            lines = BOXES * BOXES;
+            silents = rows.silents();
+            nameBoxes = told.boxes(rows.names());
+            if (someFits(rows.all())) {
+                seek(this, 0, 0);
             }
             return many;
         }
@@ -630,18 +625,6 @@ public final class NetShape {
             return net.fits(traces);
         }
 
-        private void find() {
-            found = true;
-            many = 0;
-            newBoxes = SILENTS;
-            lines = BOXES * BOXES;
-            silents = rows.silents();
-            nameBoxes = told.boxes(rows.names());
-            if (someFits(rows.all())) {
-                seek(this, 0, 0);
-            }
-        }
-
         /**
          * Goes through the boxes of a SILENT HOP and of those behind it. Where nothing FITS while
          * those behind have NEW boxes of their own, nothing FITS with other boxes for them either.
@@ -653,20 +636,17 @@ public final class NetShape {
             }
             for (int box = 0; box <= NAMES + newInUse && box < BOXES; box++) {
                 int newThen = box == NAMES + newInUse ? newInUse + 1 : newInUse;
-                if (nets.mayTake(box, newThen) && nets.fitsWith(silent, box, newThen)) {
-                    seek(nets, silent + 1, newThen);
+                if (nets.mayTake(box, newThen)) {
+                    nets.net.place(silent, box, newThen);
+                    if (nets.net.fits(nets.rows.all())) {
+                        seek(nets, silent + 1, newThen);
+                    }
                 }
             }
         }
 
         private boolean mayTake(int box, int newThen) {
             return newThen <= newBoxes && (box >= NAMES || hasBit(nameBoxes, box));
-        }
-
-        private boolean fitsWith(int silent, int box, int newThen) {
-            net.place(silent, box);
-            net.loosen(silent + 1, newThen);
-            return net.fits(rows.all());
         }
 
         /** Keeps the NET at work, which FITS, if none that is kept is less. */
@@ -714,10 +694,12 @@ public final class NetShape {
             made = false;
         }
 
+        /** NEXT; NOT without two NAMES. */
         int bestPair() {
             return bestPair;
         }
 
+        /** The greatest heap of NEXT; NOT likewise. */
         int bestHeap() {
             return bestHeap;
         }
@@ -744,7 +726,8 @@ public final class NetShape {
             Arrays.fill(alwaysJoined, ALL_BOXES);
             Arrays.fill(heaps, 0);
             int names = rows.names();
-            for (int k = 0; k < least.many(); k++) {
+            int many = least.many();
+            for (int k = 0; k < many; k++) {
                 net.takeUp(least.code(k));
                 addLines();
                 addWays(names);
@@ -778,14 +761,21 @@ public final class NetShape {
 
         private void choosePair(int names) {
             bestPair = NOT;
-            bestHeap = MOST_NETS + 1;
+            bestHeap = NOT;
             for (int a = 0; a < NAMES; a++) {
                 for (int b = a + 1; b < NAMES; b++) {
-                    if (hasBit(names, a) && hasBit(names, b) && greatestHeap(a, b) < bestHeap) {
-                        bestPair = 10 * a + b;
-                        bestHeap = greatestHeap(a, b);
+                    if (hasBit(names, a) && hasBit(names, b)) {
+                        choose(a, b);
                     }
                 }
+            }
+        }
+
+        private void choose(int a, int b) {
+            int heap = greatestHeap(a, b);
+            if (bestPair == NOT || heap < bestHeap) {
+                bestPair = 10 * a + b;
+                bestHeap = heap;
             }
         }
 
