@@ -19,6 +19,13 @@ final class Check {
         }
     }
 
+    void same(String what, String got, String want) {
+        if (!got.equals(want)) {
+            System.out.println(title + ": " + what + " is <" + got + ">, due is <" + want + ">");
+        }
+        holds(what, got.equals(want));
+    }
+
     void holds(String what, boolean so) {
         due(what, so ? 1 : 0, 1);
     }

@@ -13,6 +13,7 @@ public final class ModelTest {
     /** How many NAMES a run draws from: few make clashes likely. */
     private final int names;
     private final boolean tellsMuch;
+    private int calls;
 
     private ModelTest(Check check, int run) {
         this.check = check;
@@ -34,7 +35,8 @@ public final class ModelTest {
 
     private void go() {
         int wrongBefore = check.wrong();
-        for (int call = 0; call < CALLS && check.wrong() == wrongBefore; call++) {
+        // a round makes two calls at most
+        while (calls + 2 <= CALLS && check.wrong() == wrongBefore) {
             if (dice.nextInt(100) < 45) {
                 tellSomething();
             } else {
@@ -110,6 +112,7 @@ public final class ModelTest {
     }
 
     private void see(String call, int got, int want) {
+        calls++;
         told.append(call).append(" ").append(want).append("; ");
         check.due("run " + run + ": " + call, got, want);
     }

@@ -8,11 +8,14 @@ public final class PromiseTest {
     public static void main(String[] args) {
         constants();
         newObject();
+        newObjectIsToldNothing();
         hop();
         hopSilent();
         drop();
+        dropOfEachLength();
         trace();
         forget();
+        forgetEachOfSix();
         tell();
         tellByOthers();
         untell();
@@ -30,6 +33,7 @@ public final class PromiseTest {
         nextOfOneBox();
         worst();
         count();
+        countFromEmptyToFull();
         refusedChangesNothing();
         CHECK.close();
     }
@@ -89,6 +93,20 @@ public final class PromiseTest {
         due("1: objects share nothing", new NetShape().untell(), 0);
     }
 
+    private static void newObjectIsToldNothing() {
+        for (int a = 0; a < 6; a++) {
+            for (int b = 0; b < 6; b++) {
+                String pair = "1: " + a + " and " + b;
+                due(pair + " are not ONE BOX", new NetShape().tell(a, b, true), a == b ? BAD : 1);
+                due(pair + " are not APART", new NetShape().tell(a, b, false), a == b ? BAD : 1);
+            }
+        }
+        due("1: no HOP is TWICE", new NetShape().hop(0), 1);
+        due("1: nets", new NetShape().nets(), 1);
+        due("1: falses", new NetShape().falses(), 0);
+        due("1: forget", new NetShape().forget(0), BAD);
+    }
+
     private static void hop() {
         NetShape x = new NetShape();
         for (int name : OUT_OF_BOUNDS) {
@@ -142,6 +160,18 @@ public final class PromiseTest {
         due("3: TRACES stay", x.drop() * 100 + x.count(0), 1);
     }
 
+    private static void dropOfEachLength() {
+        NetShape x = new NetShape();
+        for (int length = 0; length <= 6; length++) {
+            for (int i = 0; i < length; i++) {
+                x.hop(i);
+            }
+            due("3: a row of " + length, x.drop(), length);
+            due("3: none at hand behind it", x.count(3), 0);
+            due("3: nothing to trace", x.trace(), NOT);
+        }
+    }
+
     private static void trace() {
         NetShape x = new NetShape();
         due("4: no HOPS", x.trace(), NOT);
@@ -192,6 +222,24 @@ public final class PromiseTest {
         due("5: again", x.forget(0), 1);
         due("5: none left", x.forget(0), 0);
         due("5: no more", x.forget(0), BAD);
+    }
+
+    private static void forgetEachOfSix() {
+        for (int gone = 0; gone < 6; gone++) {
+            NetShape x = of(row(0, 1), row(1, -1, 2), row(2, -1, -1, 3), row(3, 4, 5, 0, 1), row(4, 5), row(5, -1, 0));
+            due("5: no TRACE 6", x.forget(6), BAD);
+            due("5: no TRACE -1", x.forget(-1), BAD);
+            due("5: five left", x.forget(gone), 5);
+            for (int t = 0; t < 5; t++) {
+                int before = t < gone ? t : t + 1;
+                due("5: TRACE " + t + " was " + before, x.at(t, 0), before);
+                int length = new int[] {2, 3, 4, 5, 2, 3}[before];
+                due("5: its last HOP", x.at(t, length - 1), (before + new int[] {1, 1, 1, 4, 1, 1}[before]) % 6);
+                due("5: none behind that", x.at(t, length), BAD);
+            }
+            due("5: no TRACE 5 then", x.at(5, 0) + x.forget(5), 2 * BAD);
+            due("5: SILENT HOPS left", x.count(1), 4 - new int[] {0, 1, 2, 0, 0, 1}[gone]);
+        }
     }
 
     private static void tell() {
@@ -529,6 +577,36 @@ public final class PromiseTest {
         due("17: where none FITS too", x.count(4) * 100 + x.nets(), 100);
         due("17: no such", x.count(-1) + x.count(5), 2 * BAD);
         due("17: no such", x.count(Integer.MAX_VALUE) + x.count(Integer.MIN_VALUE), 2 * BAD);
+    }
+
+    private static void countFromEmptyToFull() {
+        NetShape x = of(row(0, -1, -1, -1, -1, 1), row(2, 3), row(4, 5), row(1, 2), row(3, 4));
+        int[] five = {5, 4, 6, 0, 6};
+        for (int what = 0; what < 5; what++) {
+            due("17: count(" + what + ")", x.count(what), five[what]);
+        }
+        add(x, 0, 1);
+        for (int name = 0; name < 6; name++) {
+            x.hop(name);
+        }
+        int[] full = {6, 4, 6, 6, 6};
+        for (int what = 0; what < 5; what++) {
+            due("17: at most, count(" + what + ")", x.count(what), full[what]);
+        }
+        due("17: the first that is no count", x.count(5), BAD);
+        due("17: the last that is no count", x.count(-1), BAD);
+        for (int name = 1; name < 6; name++) {
+            x.tell(0, name, true);
+            due("17: boxes of NAMES", x.count(4), 6 - name);
+            due("17: NAMES", x.count(2), 6);
+        }
+        for (int left = 5; left >= 0; left--) {
+            x.forget(0);
+        }
+        x.drop();
+        for (int what = 0; what < 5; what++) {
+            due("17: none, count(" + what + ")", x.count(what), 0);
+        }
     }
 
     private static void refusedChangesNothing() {
