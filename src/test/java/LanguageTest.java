@@ -30,8 +30,11 @@ public final class LanguageTest {
         fields();
         classesInside();
         methods();
+        types();
         words(code);
         library(code);
+        loops(code);
+        makings(code);
         methodLengths(code);
         callDepths(code);
         CHECK.close();
@@ -123,6 +126,50 @@ public final class LanguageTest {
         }
     }
 
+    /** Rule 3: numbers, rows of numbers, and the program's own classes. */
+    private static void types() {
+        for (Class<?> type : allClasses()) {
+            for (Field field : type.getDeclaredFields()) {
+                CHECK.holds(field + " is of a type that is left", isLeft(field.getType()));
+            }
+            for (Method method : type.getDeclaredMethods()) {
+                Class<?> answer = method.getReturnType();
+                CHECK.holds(method + " answers such a type", answer == void.class || isLeft(answer));
+                for (Class<?> parameter : method.getParameterTypes()) {
+                    CHECK.holds(method + " takes such types", isLeft(parameter));
+                }
+            }
+        }
+    }
+
+    private static boolean isLeft(Class<?> type) {
+        return type == int.class || type == boolean.class || type == int[].class || allClasses().contains(type);
+    }
+
+    /** Rule 9: each loop counts one up from its start against a bound that stands in its head. */
+    private static void loops(String code) {
+        Matcher loop = Pattern.compile("\\bfor \\((.*)\\) \\{").matcher(code);
+        int seen = 0;
+        while (loop.find()) {
+            seen++;
+            CHECK.holds("the end of the loop is seen: " + loop.group(1),
+                    loop.group(1).matches("int (\\w+) = [^;]*; [^;]*\\b\\1\\b[^;<]* <=? [^;]*; \\1\\+\\+"));
+        }
+        CHECK.due("all loops are seen", seen, code.split("\\bfor\\b").length - 1);
+        CHECK.holds("no do", !Pattern.compile("\\bdo\\b").matcher(code).find());
+    }
+
+    /** Rule 12: all that is made is made with the object, in fields and in its constructor. */
+    private static void makings(String code) {
+        String constructor = code.substring(code.indexOf("public NetShape() {"), code.indexOf("public int hop"));
+        for (String line : code.split("\n")) {
+            boolean makes = Pattern.compile("\\bnew\\b").matcher(line).find();
+            boolean field = line.matches(" {8}private final int\\[\\] \\w+ = new int\\[.*\\];");
+            CHECK.holds("made with the object: " + line, !makes || field || constructor.contains(line));
+        }
+        CHECK.holds("no array that grows or is copied", !code.contains("clone") && !code.contains("copyOf"));
+    }
+
     private static void words(String code) {
         for (String word : List.of("throw", "throws", "try", "catch", "finally", "synchronized", "assert",
                 "instanceof", "protected", "hashCode", "toString", "Object", "Random", "System", "Thread",
@@ -177,15 +224,20 @@ public final class LanguageTest {
         return deepest;
     }
 
+    /** Rule 11: what ends at the depth where a method began is that method; a class's end has none. */
     private static void methodLengths(String code) {
-        int start = 0;
+        int start = -1;
+        int seen = 0;
         String[] lines = code.split("\n");
         for (int i = 0; i < lines.length; i++) {
-            if (lines[i].matches("( {4}| {8})\\S.*\\) \\{")) {
+            if (lines[i].matches("( {4}| {8})\\w.*\\) \\{") && !lines[i].matches(" {8}(if|for|switch) .*")) {
                 start = i;
-            } else if (lines[i].matches("( {4}| {8})\\}")) {
-                CHECK.holds("the method at its line " + start + " is short", i - start <= 60 || lines[i].startsWith("    }"));
+            } else if (start >= 0 && lines[i].equals(lines[start].replaceAll("\\S.*", "") + "}")) {
+                CHECK.holds("the method is short: " + lines[start], i - start <= 60);
+                start = -1;
+                seen++;
             }
         }
+        CHECK.holds("the methods' ends are seen", seen > 80);
     }
 }
